@@ -8,7 +8,7 @@ public final class RunsTest {
         "touch", "counts", "mornings", "part", "image", "from", "status", "count", "digest"};
     private static final String[] PIECES = {
         "bath", "sign", "shut", "one", ";", ";", ";", " ", " ", "0", "1", "2", "3", "4", "5", "20", "55", "90", "91",
-        "100", "bat", "X", "one 0 45 1;", "one 3 20 0;", "shut 2;", "sign 1 2;", "shut 1;", "one 5 39 3;"};
+        "100", "bat", "X", "00", "02", "sign3 1;", "\n", "one1 60 2;", "one 0 45 1;", "one 3 20 0;", "shut 2;", "sign 1 2;", "shut 1;", "one 5 39 3;"};
 
     private static final Due due = new Due();
 
@@ -36,7 +36,7 @@ public final class RunsTest {
             String name = CALLS[r.nextInt(CALLS.length)];
             boolean dear = name.equals("all") && model.call("count", 0) > 5 || name.equals("bath");
             if (!dear || r.nextInt(8) == 0) {
-                compare(x, model, seed, name, arguments(r, name));
+                compare(x, model, seed, name, wild(r, arguments(r, name)));
             }
             if (i % 10 == 0) {
                 compare(x, model, seed, "digest");
@@ -74,6 +74,15 @@ public final class RunsTest {
             case "count": return new int[] {r.nextInt(9) - 1};
             default: return new int[0];
         }
+    }
+
+    private static final int[] WILD = {Integer.MIN_VALUE, Integer.MAX_VALUE, -1, -2, 0, 1, 32, 64, 256, 65536, 1 << 30};
+
+    private static int[] wild(Random r, int[] a) {
+        if (a.length > 0 && r.nextInt(25) == 0) {
+            a[r.nextInt(a.length)] = WILD[r.nextInt(WILD.length)];
+        }
+        return a;
     }
 
     private static int[] note(Random r, int p) {

@@ -156,13 +156,21 @@ public final class WhichLaneTest {
         due.refused(x, "changes(3)", () -> x.changes(3), -10, 0);
     }
 
-    /** The quick one flees from the slow one, who overtakes no better where he is and so follows. */
+    /** Six in two lanes who never come to rest: the 60th change is the last, in the midst of a round. */
     private static void changesAreCut() {
-        for (int seed = 0; seed < 4; seed++) {
-            SwimLanes x = Due.bathOf(0, 30, 0, 1, 90, 0, 0, 31, 1);
-            x.shut(2, 1);
-            x.shut(3, 1);
-            due.holds("60 at most", x.changes(-1) <= 60);
+        int[] six = {5, 33, 1, 1, 35, 1, 2, 45, 1, 1, 42, 1, 4, 60, 0, 0, 64, 0};
+        SwimLanes x = Due.bathOf(six);
+        Model model = new Model();
+        for (int i = 0; i < six.length; i += 3) {
+            model.call("one", six[i], six[i + 1], six[i + 2]);
+        }
+        for (int l = 2; l < 4; l++) {
+            x.shut(l, 1);
+            model.call("shut", l, 1);
+        }
+        due.is("60 at most", x.changes(-1), 60);
+        for (int p = 0; p < 6; p++) {
+            due.is("lane of " + p + " then", x.changes(p), model.call("changes", p));
         }
     }
 

@@ -829,8 +829,6 @@ public final class SwimLanes {
             kindOf[p] = kind;
             paceOf[p] = pace;
             now[LANE + p] = lane;
-            now[LENGTHS + p] = 0;
-            now[LEFT + p] = 0;
             swimmers = p + 1;
             undoable = 0;
             return p;

@@ -11,6 +11,7 @@ public final class BathTest {
         typeAndClear();
         readsABath();
         faults();
+        endsOfTheText();
         readTakesThePlace();
         due.end("BathTest");
     }
@@ -177,6 +178,12 @@ public final class BathTest {
         fault("bath  ", 6);
         fault("bat;", 0);
         fault("bathe;", 0);
+        fault("xath;", 0);
+        fault("bathz;", 0);
+        fault("`bath;", 0);
+        fault("bath{;", 4);
+        fault("bath;sign 0 /;", 12);
+        fault("bath;sign 0 1:", 13);
         fault(";", 0);
         fault(" 12;", 1);
         fault("sign 0 0;", 0);
@@ -214,6 +221,27 @@ public final class BathTest {
         }
         fault(seven + " one", seven.length() + 1);
         fault(seven + "ones", seven.length());
+    }
+
+    /** What was typed ahead of clear(), or lies behind the 150th byte, is no text. */
+    private static void endsOfTheText() {
+        SwimLanes x = new SwimLanes();
+        Due.typeAll(x, "bath;sign 0 1;sign 1 2;");
+        Due.typeAll(x, "bath;sign 0 1");
+        due.is("what was typed before is gone", x.read(), -10 - 13);
+        Due.typeAll(x, "bath;sig");
+        due.is("a word is not longer than the text", x.read(), -10 - 5);
+        Due.typeAll(x, "bath;");
+        due.is("an item", x.read(), 1);
+        String blanks = " ".repeat(132) + "bath;";
+        String[] last = {"sign 0 1    ;", "sign 0       ", "sign 0      1", "shut        2", "          one",
+            "sign 0      9", "         sign", "sign 0 1;shu;", "sign 0 111111"};
+        int[] answers = {2, -160, -160, -160, -160, -10 - 149, -160, -10 - 146, -10 - 144};
+        for (int i = 0; i < last.length; i++) {
+            Due.typeAll(x, blanks + last[i]);
+            due.is("150 bytes", x.count(6), 150);
+            due.is("150 bytes, the last \"" + last[i] + "\"", x.read(), answers[i]);
+        }
     }
 
     private static void fault(String text, int place) {

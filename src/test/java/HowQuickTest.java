@@ -87,6 +87,12 @@ public final class HowQuickTest {
         shut.note(0, 46, 0, 0, 0);
         due.is("no kind", shut.look(0), -1);
         due.is("none is no refusal", shut.status(0) + shut.status(1), 0);
+        SwimLanes ones = Due.bathOf(0, 45, 3, 0, 70, 3, 0, 60, 3);
+        ones.note(0, 45, 90, 0, 6);
+        due.is("three kinds told apart by lane 3 alone", ones.look(0), 3);
+        ones.note(0, 48, 90, 1, 6);
+        due.is("one who overtakes, told already", ones.is(0, 0), 2);
+        due.is("nothing more to tell", ones.look(0), 0);
         due.bad(x, "look(-1)", () -> x.look(-1));
         due.bad(x, "look(5)", () -> x.look(5));
     }
@@ -143,21 +149,36 @@ public final class HowQuickTest {
         due.is("one alone, wherever", x.mornings(0, 60), 60);
         due.is("none", x.mornings(999999, 0), 0);
         due.is("nothing is changed", x.digest(), digest);
-        // seed 0: 12345, then 12345 * 1103515245 + 12345 by 2147483648: 0 and 21468 by 65536, the one to lane 0
-        SwimLanes two = Due.bathOf(0, 60, 0, 3, 50, 0);
-        long a = 12345;
-        long b = (a * 1103515245L + 12345) % 2147483648L;
-        int p = (int) (a / 65536 % 2);
-        int lane = (int) (b / 65536 % 4);
-        due.is("who goes", p, 0);
-        SwimLanes same = Due.bathOf(0, 60, 0, 3, 50, 0);
-        same.goes(p, lane);
-        due.is("one morning", two.mornings(0, 1), same.minute(1));
+        for (int seed = 0; seed < 1000000; seed += 99999) {
+            morningsStepByStep(seed);
+        }
         SwimLanes nobody = new SwimLanes();
         due.no(nobody, "mornings(0, 0), nobody there", () -> nobody.mornings(0, 0));
         due.bad(nobody, "mornings(-1, 0)", () -> nobody.mornings(-1, 0));
         due.bad(x, "mornings(1000000, 0)", () -> x.mornings(1000000, 0));
         due.bad(x, "mornings(0, -1)", () -> x.mornings(0, -1));
         due.bad(x, "mornings(0, 61)", () -> x.mornings(0, 61));
+    }
+
+    /** The same changes and minutes, made one by one. */
+    private static void morningsStepByStep(int seed) {
+        int[] five = {0, 60, 0, 3, 50, 0, 1, 20, 1, 4, 33, 3, 5, 77, 3};
+        SwimLanes x = Due.bathOf(five);
+        SwimLanes same = Due.bathOf(five);
+        x.shut(2, 1);
+        same.shut(2, 1);
+        x.minute(7);
+        same.minute(7);
+        long drawn = seed;
+        int swum = 0;
+        for (int n = 1; n <= 9; n++) {
+            drawn = (drawn * 1103515245L + 12345) & 0x7fffffffL;
+            int p = (int) (drawn >> 16) % 5;
+            drawn = (drawn * 1103515245L + 12345) & 0x7fffffffL;
+            same.goes(p, (int) (drawn >> 16) % 4);
+            swum += same.minute(1);
+            due.is("mornings(" + seed + ", " + n + ")", x.mornings(seed, n), swum);
+        }
+        due.is("nobody has gone", x.lane(0, 2), 3);
     }
 }

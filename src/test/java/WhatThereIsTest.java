@@ -6,6 +6,7 @@ public final class WhatThereIsTest {
         part();
         images();
         imagesKeepWhatMayBeUndone();
+        imagesKeepEachOfThem();
         status();
         count();
         digest();
@@ -81,6 +82,32 @@ public final class WhatThereIsTest {
         due.is("again two", x.count(5), 2);
     }
 
+    private static void imagesKeepEachOfThem() {
+        SwimLanes x = Due.bathOf(0, 30, 0, 3, 77, 1);
+        int[] lanes = new int[9];
+        for (int i = 0; i < 9; i++) {
+            lanes[i] = 10 * x.of(0, 2) + x.of(1, 2);
+            x.goes(i % 2, 3 - i % 4);
+        }
+        x.note(1, 2, 3, 4, 5);
+        x.note(0, 6, 7, 1, 2);
+        x.image(0);
+        long kept = x.digest();
+        x.forget();
+        x.note(0, 9, 9, 0, 0);
+        x.note(0, 9, 9, 0, 0);
+        for (int i = 0; i < 9; i++) {
+            x.minute(5);
+        }
+        x.from(0);
+        due.is("notes as kept", x.digest(), kept);
+        for (int i = 8; i >= 1; i--) {
+            due.is("undone behind from", x.undo(), 0);
+            due.is("lanes ahead of change " + i, 10 * x.of(0, 2) + x.of(1, 2), lanes[i]);
+        }
+        due.no(x, "undo(), a 9th time", x::undo);
+    }
+
     private static void status() {
         SwimLanes x = new SwimLanes();
         x.sign(4, 0);
@@ -128,6 +155,11 @@ public final class WhatThereIsTest {
         x.counts(1, 1, 5);
         due.is("digest", x.digest(),
             of(1, 1, 3, 1, 1, 1, 0, 0, 0, 1, 0, 1, 0, 2, 1, 4, 50, 1, 1, 10, 0, 3, 4, 5, 6, 1, 2));
+        SwimLanes two = Due.bathOf(3, 50, 1, 3, 80, 2);
+        two.minute(3);
+        two.goes(1, 3);
+        due.is("digest of two", two.digest(),
+            of(2, 3, 4, 5, 0, 2, 0, 0, 0, 1, 0, 1, 0, 2, 0, 3, 50, 1, 3, 30, 3, 80, 3, 2, 20, 0, 1));
         x.sign(9, 9);
         due.is("status is not in it", x.digest(),
             of(1, 1, 3, 1, 1, 1, 0, 0, 0, 1, 0, 1, 0, 2, 1, 4, 50, 1, 1, 10, 0, 3, 4, 5, 6, 1, 2));

@@ -50,6 +50,11 @@ public final class WhichLaneTest {
         due.is("behind one", x.lengths(0, 1), 2);
         due.is("behind two", x.lengths(0, 2), 4);
         due.is("behind 60", x.lengths(1, 60), 183);
+        due.is("of the other by its own seconds", Due.bathOf(0, 20, 0, 3, 59, 0).lengths(1, 59), 60);
+        SwimLanes odd = Due.bathOf(3, 60, 0, 3, 59, 0);
+        odd.minute(58);
+        due.is("58 are left over", odd.of(1, 4), 58);
+        due.is("and make a length more", odd.lengths(1, 1), 60);
         due.is("nothing is changed", x.count(1), 1);
         due.bad(x, "lengths(-1, 0)", () -> x.lengths(-1, 0));
         due.bad(x, "lengths(2, 0)", () -> x.lengths(2, 0));
@@ -153,6 +158,7 @@ public final class WhichLaneTest {
         due.is("of 1", x.changes(1), 2);
         due.is("of 2", x.changes(2), 0);
         due.is("nobody has gone", x.lane(0, 2), 7);
+        due.is("only the last one would", Due.bathOf(3, 30, 0, 0, 40, 0).changes(-1), 1);
         due.refused(x, "changes(3)", () -> x.changes(3), -10, 0);
     }
 
@@ -200,6 +206,15 @@ public final class WhichLaneTest {
             due.refused(x, "order of " + w[0] + " " + w[1] + " " + w[2] + " " + w[3],
                 () -> x.order(w[0], w[1], w[2], w[3]), -10, 0);
         }
+        SwimLanes alike = Due.bathOf(0, 50, 2, 0, 50, 2, 0, 40, 2);
+        due.is("two alike", alike.order(2, 0, 9, -1), 2);
+        due.is("of two alike the first", alike.order(2, 0, 9, 1), 0);
+        SwimLanes steps = Due.bathOf(0, 60, 0, 0, 20, 0, 0, 40, 0, 0, 90, 0);
+        due.is("40 must be between", steps.order(0, 20, 1, -1), 4);
+        int[] first = {0, 2, 1, 3};
+        for (int i = 0; i < 4; i++) {
+            due.is("40 between, place " + i, steps.order(0, 20, 1, i), first[i]);
+        }
         SwimLanes seven = new SwimLanes();
         for (int p = 0; p < 7; p++) {
             seven.one(p % 6, 20 + p, 0);
@@ -216,7 +231,8 @@ public final class WhichLaneTest {
         due.is("only more", x.apart(1, 9), -1);
         due.is("none is no refusal", x.status(0) + x.status(1) + x.status(2), 0);
         due.is("nobody", x.apart(2, 9), 0);
-        due.is("600 itself", Due.bathOf(0, 90, 0, 0, 30, 0).apart(0, 9), 540);
+        due.is("594 of 600", Due.bathOf(0, 90, 0, 0, 24, 0).apart(0, 9), 594);
+        due.is("603 are more", Due.bathOf(0, 90, 0, 0, 23, 0).apart(0, 9), -1);
         due.is("rising paces", Due.bathOf(0, 30, 0, 0, 90, 0).apart(0, 9), 0);
         due.bad(x, "apart(-1, 1)", () -> x.apart(-1, 1));
         due.bad(x, "apart(4, 1)", () -> x.apart(4, 1));

@@ -1,6 +1,6 @@
 import java.util.Arrays;
 
-/** Slow, medium, fast: a bath, its lanes and signs, and who swims where; ../shared/DOC.md says what each call answers. */
+/** Slow, medium, fast: a bath, its lanes and signs, who swims where; ../shared/DOC.md says what each call answers. */
 public final class SwimLanes {
     public static final int NONE = -1, BAD = -2, NO = -3, FULL = -4;
 
@@ -483,18 +483,10 @@ public final class SwimLanes {
     }
 
     private int cheapestLane(int p) {
-        int cheapest = NONE;
-        int least = 0;
         for (int l = 0; l < LANES; l++) {
-            if (bath.isOpen(l)) {
-                int costs = bath.costTo(bath.others(bath.now, p, l), p);
-                if (cheapest == NONE || costs < least) {
-                    cheapest = l;
-                    least = costs;
-                }
-            }
+            bath.perLane[l] = bath.costTo(bath.others(bath.now, p, l), p);
         }
-        return cheapest;
+        return bath.leastOpenLane();
     }
 
     /** It ends when nobody has changed for a whole round; the bound is what the most changes can need. */
@@ -638,18 +630,13 @@ public final class SwimLanes {
     }
 
     private int tellingLane(int p, int fitting) {
-        int telling = NONE;
-        int fewest = KINDS + 1;
-        for (int l = 0; l < LANES && fitting != 0; l++) {
-            if (bath.isOpen(l)) {
-                int alike = mostAlike(p, fitting, bath.others(bath.now, p, l));
-                if (alike < fewest) {
-                    telling = l;
-                    fewest = alike;
-                }
-            }
+        if (fitting == 0) {
+            return NONE;
         }
-        return telling;
+        for (int l = 0; l < LANES; l++) {
+            bath.perLane[l] = mostAlike(p, fitting, bath.others(bath.now, p, l));
+        }
+        return bath.leastOpenLane();
     }
 
     private int mostAlike(int p, int fitting, int others) {
@@ -772,7 +759,7 @@ public final class SwimLanes {
 
     /** What an image keeps: all but images, the text, the fraction and the status. */
     private static final class Bath {
-        /** A row is what UNDO brings back: the minute, then of each one the lane, the lengths, the seconds left over. */
+        /** A row is what UNDO brings back: the minute, then lanes, lengths and seconds left over of all. */
         private static final int MINUTE = 0;
         private static final int LANE = 1;
         private static final int LENGTHS = LANE + SWIMMERS;
@@ -790,6 +777,8 @@ public final class SwimLanes {
         private final int[] now = new int[ROW];
         private final int[] past = new int[UNDOABLE * ROW];
         private final int[] notes = new int[NOTES * NOTE];
+        /** Written anew by each call that compares lanes: no part of what the bath is. */
+        private final int[] perLane = new int[LANES];
         private int swimmers;
         private int undoable;
         private int noted;
@@ -939,18 +928,20 @@ public final class SwimLanes {
         }
 
         private int quickestLane(int[] row, int p) {
-            int quickest = NONE;
-            int fewest = 0;
             for (int l = 0; l < LANES; l++) {
-                if (isOpen(l)) {
-                    int seconds = takesIn(row, p, l);
-                    if (quickest == NONE || seconds < fewest) {
-                        quickest = l;
-                        fewest = seconds;
-                    }
+                perLane[l] = takesIn(row, p, l);
+            }
+            return leastOpenLane();
+        }
+
+        private int leastOpenLane() {
+            int least = NONE;
+            for (int l = 0; l < LANES; l++) {
+                if (isOpen(l) && (least == NONE || perLane[l] < perLane[least])) {
+                    least = l;
                 }
             }
-            return quickest;
+            return least;
         }
 
         private int minuteGoesBy(int[] row) {
@@ -1032,8 +1023,8 @@ public final class SwimLanes {
         }
 
         /**
-         * No one more makes a sum less, so what is no better already is left. Empty lanes are alike: the least of
-         * them comes first, the others give nothing better.
+         * No one more makes a sum less, so what is no better already is left. Lanes are alike but for who is in
+         * them: behind the first empty one all are empty, too, and give nothing better.
          */
         private void place(Bath bath, int p, int sum) {
             if (sum >= least) {
@@ -1044,11 +1035,11 @@ public final class SwimLanes {
                 System.arraycopy(tried, 0, first, 0, SWIMMERS);
                 return;
             }
-            boolean triedEmpty = false;
-            for (int l = 0; l < LANES; l++) {
-                int others = members[l];
-                if (bath.isOpen(l) && !(triedEmpty && others == 0)) {
-                    triedEmpty = triedEmpty || others == 0;
+            boolean wasEmpty = false;
+            for (int l = 0; l < LANES && !wasEmpty; l++) {
+                if (bath.isOpen(l)) {
+                    int others = members[l];
+                    wasEmpty = others == 0;
                     tried[p] = l;
                     members[l] = others | 1 << p;
                     place(bath, p + 1, sum + bath.takes(p, others) + bath.costTo(others, p));

@@ -8,7 +8,8 @@ public final class RunsTest {
         "touch", "counts", "mornings", "part", "image", "from", "status", "count", "digest"};
     private static final String[] PIECES = {
         "bath", "sign", "shut", "one", ";", ";", ";", " ", " ", "0", "1", "2", "3", "4", "5", "20", "55", "90", "91",
-        "100", "bat", "X", "00", "02", "sign3 1;", "\n", "one1 60 2;", "one 0 45 1;", "one 3 20 0;", "shut 2;", "sign 1 2;", "shut 1;", "one 5 39 3;"};
+        "100", "bat", "X", "00", "02", "sign3 1;", "\n", "one1 60 2;",
+        "one 0 45 1;", "one 3 20 0;", "shut 2;", "sign 1 2;", "shut 1;", "one 5 39 3;"};
 
     private static final Due due = new Due();
 

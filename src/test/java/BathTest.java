@@ -3,12 +3,19 @@ public final class BathTest {
     private static final Due due = new Due();
 
     public static void main(String[] args) {
+        due.promise(1);
         newObject();
+        due.promise(2);
         bath();
+        due.promise(3);
         sign();
+        due.promise(4);
         shut();
+        due.promise(5);
         one();
+        due.promise(6, 7);
         typeAndClear();
+        due.promise(8);
         readsABath();
         faults();
         endsOfTheText();
@@ -238,9 +245,10 @@ public final class BathTest {
             "sign 0      9", "         sign", "sign 0 1;shu;", "sign 0 111111"};
         int[] answers = {2, -160, -160, -160, -160, -10 - 149, -160, -10 - 146, -10 - 144};
         for (int i = 0; i < last.length; i++) {
-            Due.typeAll(x, blanks + last[i]);
-            due.is("150 bytes", x.count(6), 150);
-            due.is("150 bytes, the last \"" + last[i] + "\"", x.read(), answers[i]);
+            SwimLanes full = new SwimLanes();
+            Due.typeAll(full, blanks + last[i]);
+            due.is("150 bytes", full.count(6), 150);
+            due.is("150 bytes, the last \"" + last[i] + "\"", full.read(), answers[i]);
         }
     }
 

@@ -4,12 +4,22 @@ import java.util.function.LongSupplier;
 final class Due {
     private int wrong = 0;
     private int looked = 0;
+    private String promise = "";
+
+    /** The numbers of the promises that are tested from here on; each wrong answer is told with them. */
+    void promise(int... numbers) {
+        StringBuilder text = new StringBuilder("Promise");
+        for (int number : numbers) {
+            text.append(' ').append(number);
+        }
+        promise = text.append(": ").toString();
+    }
 
     void is(String what, long got, long want) {
         looked++;
         if (got != want) {
             wrong++;
-            System.out.println(what + " answered " + got + ", due is " + want);
+            System.out.println(promise + what + " answered " + got + ", due is " + want);
         }
     }
 

@@ -314,6 +314,8 @@ final class EdgesOfLanes {
             int one = p;
             edge.asks(Baths::busy, "the lane of " + p + " then", x -> x.changes(one), lanes[p]);
         }
+        edge.is("only the last one would", Due.bathOf(3, 30, 0, 3, 30, 0, 0, 30, 0).changes(-1), 1);
+        edge.is("only the first one would", Due.bathOf(0, 30, 0, 3, 30, 0, 3, 30, 0).changes(-1), 1);
         SwimLanes shut = Due.bathOf(0, 50, 2, 0, 90, 2);
         for (int l : new int[] {0, 1, 3}) {
             shut.shut(l, 1);
@@ -428,6 +430,11 @@ final class EdgesOfLanes {
         SwimLanes nine = Due.bathOf(0, 26, 0, 0, 20, 0);
         edge.is("6 of 9 lengths, 54 apart", nine.order(0, 54, 9, -1), 2);
         edge.is("6 of 9 lengths, 53 apart", nine.order(0, 53, 9, -1), 1);
+        SwimLanes least = Due.bathOf(0, 51, 0, 0, 50, 0);
+        edge.is("1 of 1 length, 1 apart", least.order(0, 1, 1, -1), 2);
+        edge.is("1 of 1 length, none apart", least.order(0, 0, 1, -1), 1);
+        edge.is("1 of 9 lengths, 9 apart", least.order(0, 9, 9, -1), 2);
+        edge.is("1 of 9 lengths, 8 apart", least.order(0, 8, 9, -1), 1);
         SwimLanes alike = Due.bathOf(0, 50, 0, 0, 50, 0);
         edge.is("alike, none apart", alike.order(0, 0, 9, -1), 2);
     }

@@ -194,6 +194,9 @@ final class EdgesOfNotes {
             edge.is("alone in " + l, Due.bathOf(0, 45, l).look(0), 0);
         }
         edge.is("slower ones in 1, 2, 3", Due.bathOf(0, 45, 0, 3, 70, 1, 3, 80, 2, 3, 90, 3).look(0), 1);
+        // 57 for overtakes and chats by four of 48: two alike at most, as by one of 90
+        edge.is("two alike by unlike kinds", Due.bathOf(0, 45, 3, 3, 48, 0, 3, 48, 0, 3, 48, 0, 3, 48, 0, 3, 90, 1)
+            .look(0), 0);
         edge.is("slower ones in 2, 3", Due.bathOf(0, 45, 0, 3, 80, 2, 3, 90, 3).look(0), 2);
     }
 

@@ -11,6 +11,7 @@ final class EdgesOfState {
     void run() {
         part();
         image();
+        imageOfTheFull();
         imageBad();
         from();
         fromBad();
@@ -56,6 +57,37 @@ final class EdgesOfState {
         SwimLanes twin = Baths.busy();
         twin.from(1);
         edge.alike("kept again as it was", same, twin);
+    }
+
+    /** Seven swimmers, six notes, eight that may be undone, all of which are then something else. */
+    private static SwimLanes fullImage() {
+        SwimLanes x = Baths.seven();
+        for (int i = 0; i < 4; i++) {
+            x.note(6 - i, 50 + i, 60 + i, i, 6 - i);
+        }
+        for (int i = 0; i < 9; i++) {
+            x.goes(i % 7, 3 - i % 4);
+            x.minute(1 + i);
+        }
+        x.image(0);
+        return x;
+    }
+
+    private void imageOfTheFull() {
+        edge.says(32, "keep all but them");
+        SwimLanes x = fullImage();
+        edge.is("eight may be undone", x.count(5), 8);
+        x.bath();
+        for (int p = 0; p < 7; p++) {
+            x.one(3, 90 - p, 3);
+            x.sign(p % 4, 2);
+            x.note(0, 1, 2, 3, 4);
+        }
+        for (int i = 0; i < 9; i++) {
+            x.minute(60);
+        }
+        x.from(0);
+        edge.alike("all as kept", x, fullImage());
     }
 
     private void imageBad() {
@@ -155,6 +187,8 @@ final class EdgesOfState {
             edge.asks(Baths::nobody, "count " + what + ", nobody there", x -> x.count(at), nobody[what]);
         }
         edge.asks(Baths::seven, "seven", x -> x.count(0), 7);
+        // by the last minute: the five, none for the proud one (81 seconds behind 80), three for the one of 20
+        edge.asks(Baths::seven, "lengths of seven", x -> x.count(3), 24 + 1 + 1 + 2 + 1 + 1 + 0 + 3);
         edge.asks(() -> Baths.atMinute(1050), "the last minute", x -> x.count(1), 999);
         edge.asks(Baths::notesFull, "six notes", x -> x.count(4), 6);
         edge.asks(() -> Baths.atMinute(999), "17 minutes' calls, 8 may be undone", x -> x.count(5), 8);

@@ -225,6 +225,14 @@ final class EdgesOfText {
         edge.says(READ, "(a word that is none");
         fault("bat;", 0);
         fault("bathe;", 0);
+        fault("xath;", 0);
+        fault("batx;", 0);
+        fault("bath;xign 0 0;", 5);
+        fault("bath;sigx 0 0;", 5);
+        fault("bath;xhut 0;", 5);
+        fault("bath;shux 0;", 5);
+        fault("bath;xne 0 20 0;", 5);
+        fault("bath;onx 0 20 0;", 5);
         fault("bath;sig 0 0;", 5);
         fault("bath;signs 0 0;", 5);
         fault("bath;shu 0;", 5);

@@ -3,11 +3,17 @@ public final class HowQuickTest {
     private static final Due due = new Due();
 
     public static void main(String[] args) {
+        due.promise(24, 25);
         noteAndForget();
+        due.promise(26);
         is();
+        due.promise(27);
         look();
+        due.promise(28);
         touch();
+        due.promise(29);
         counts();
+        due.promise(30);
         mornings();
         due.end("HowQuickTest");
     }

@@ -3,13 +3,18 @@ public final class MinutesTest {
     private static final Due due = new Due();
 
     public static void main(String[] args) {
+        due.promise(9);
         goes();
+        due.promise(10);
         minute();
         leftOverInAQuickerLane();
         lastMinute();
+        due.promise(11);
         undo();
         undoIsCut();
+        due.promise(12);
         of();
+        due.promise(13);
         lane();
         due.end("MinutesTest");
     }

@@ -10,19 +10,27 @@ public final class RoomTest {
     public static void main(String[] args) {
         Due due = new Due();
         ThreadMXBean threads = (ThreadMXBean) ManagementFactory.getThreadMXBean();
-        SwimLanes x = Due.bathOf(0, 30, 0, 1, 90, 0, 2, 45, 0, 3, 50, 1, 4, 60, 1, 5, 20, 2, 0, 70, 3);
-        x.image(0);
-        x.image(1);
-        eachCall(x);
+        SwimLanes[] all = new SwimLanes[ROUNDS];
+        for (int i = 0; i < ROUNDS; i++) {
+            all[i] = made();
+        }
+        eachCall(made());
         long id = Thread.currentThread().getId();
         long before = threads.getThreadAllocatedBytes(id);
         for (int i = 0; i < ROUNDS; i++) {
-            eachCall(x);
+            eachCall(all[i]);
         }
         long made = threads.getThreadAllocatedBytes(id) - before;
         due.holds("bytes made by " + ROUNDS + " rounds of all calls: " + made, made < 4096);
         due.holds("they were answered", answers != 0);
         due.end("RoomTest");
+    }
+
+    private static SwimLanes made() {
+        SwimLanes x = Due.bathOf(0, 30, 0, 1, 90, 0, 2, 45, 0, 3, 50, 1, 4, 60, 1, 5, 20, 2, 0, 70, 3);
+        x.image(0);
+        x.image(1);
+        return x;
     }
 
     private static void eachCall(SwimLanes x) {

@@ -11,6 +11,9 @@ public final class RunsTest {
         "100", "bat", "X", "00", "02", "sign3 1;", "\n", "one1 60 2;",
         "one 0 45 1;", "one 3 20 0;", "shut 2;", "sign 1 2;", "shut 1;", "one 5 39 3;"};
 
+    /** With a digest behind each tenth, and STATUS at last, these stay below the 512 calls that an object is used for. */
+    private static final int MOST_TURNS = 460;
+
     private static final Due due = new Due();
 
     public static void main(String[] args) {
@@ -33,7 +36,7 @@ public final class RunsTest {
         for (int i = 0; i < most; i++) {
             compare(x, model, seed, "one", r.nextInt(6), 20 + r.nextInt(71), r.nextInt(4));
         }
-        for (int i = most; i < 500; i++) {
+        for (int i = most; i < MOST_TURNS; i++) {
             String name = CALLS[r.nextInt(CALLS.length)];
             boolean dear = name.equals("all") && model.call("count", 0) > 5 || name.equals("bath");
             if (!dear || r.nextInt(8) == 0) {

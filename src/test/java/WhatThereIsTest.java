@@ -3,12 +3,17 @@ public final class WhatThereIsTest {
     private static final Due due = new Due();
 
     public static void main(String[] args) {
+        due.promise(31);
         part();
+        due.promise(32, 33);
         images();
         imagesKeepWhatMayBeUndone();
         imagesKeepEachOfThem();
+        due.promise(34);
         status();
+        due.promise(35);
         count();
+        due.promise(36);
         digest();
         due.end("WhatThereIsTest");
     }

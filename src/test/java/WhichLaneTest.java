@@ -3,15 +3,24 @@ public final class WhichLaneTest {
     private static final Due due = new Due();
 
     public static void main(String[] args) {
+        due.promise(14);
         seconds();
+        due.promise(15);
         lengths();
+        due.promise(16);
         best();
+        due.promise(17, 18);
         costAndWhere();
+        due.promise(19);
         obey();
+        due.promise(20);
         all();
+        due.promise(21);
         changes();
         changesAreCut();
+        due.promise(22);
         order();
+        due.promise(23);
         apart();
         due.end("WhichLaneTest");
     }
